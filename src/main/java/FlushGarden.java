@@ -24,6 +24,8 @@ public final class FlushGarden {
     private static final int MOST_HEAT = 5;
     private static final int MOST_WEATHER = 6;
     private static final int SAP_OF_A_FLUSH = 5;
+    private static final int MIX_SUM = 100000;
+    private static final int NO_MIX = Integer.MAX_VALUE;
 
     private final Section[] sections = new Section[MOST_SECTIONS];
     private int sectionCount = 0;
@@ -429,25 +431,16 @@ public final class FlushGarden {
         requireArgument(body, 0, GREATEST_NOTE);
         requireArgument(brisk, 0, GREATEST_NOTE);
         requireArgument(aroma, 0, GREATEST_NOTE);
-        int best = NONE;
-        int bestSum = NONE;
+        int least = NO_MIX;
         for (int i = 0; i < lotCount; i++) {
             for (int j = i + 1; j < lotCount; j++) {
-                if (!lots[i].isFreeMade() || !lots[j].isFreeMade()) {
-                    continue;
-                }
-                int tenths = bestTenths(lots[i], lots[j], body, brisk, aroma);
-                if (tenths == NONE) {
-                    continue;
-                }
-                int sum = mixedSum(lots[i], lots[j], tenths);
-                if (best == NONE || sum < bestSum) {
-                    bestSum = sum;
-                    best = 1000 * i + 10 * j + tenths;
+                if (lots[i].isFreeMade() && lots[j].isFreeMade()) {
+                    int pair = 1000 * i + 10 * j;
+                    least = Math.min(least, leastMix(pair, lots[i], lots[j], body, brisk, aroma));
                 }
             }
         }
-        return best;
+        return least == NO_MIX ? NONE : least % MIX_SUM;
     }
 
     public int wouldPay(int lot) {
@@ -609,37 +602,25 @@ public final class FlushGarden {
         return rival == NONE ? lot.auction.reserve : Math.min(lot.auction.prices[winner], rival + 1);
     }
 
-    private static int mixedSum(Lot first, Lot second, int tenths) {
-        return tenths * first.sumOfNotes() + (10 - tenths) * second.sumOfNotes();
-    }
-
-    private static int mixedNote(int first, int second, int tenths) {
-        return (tenths * first + (10 - tenths) * second) / 10;
-    }
-
-    // Of both lots the notes are asked once, not for all tenths anew.
-    private static int bestTenths(Lot first, Lot second, int body, int brisk, int aroma) {
+    // A sum of notes goes ahead of the mix's number, so that the least of such keys is the best mix.
+    private static int leastMix(int pair, Lot first, Lot second, int body, int brisk, int aroma) {
         int firstBody = first.noteOf(BODY);
         int firstBrisk = first.noteOf(BRISK);
         int firstAroma = first.noteOf(AROMA);
-        int firstSum = firstBody + firstBrisk + firstAroma;
         int secondBody = second.noteOf(BODY);
         int secondBrisk = second.noteOf(BRISK);
         int secondAroma = second.noteOf(AROMA);
-        int secondSum = secondBody + secondBrisk + secondAroma;
-        int best = NONE;
-        int bestSum = NONE;
+        int least = NO_MIX;
         for (int tenths = 1; tenths <= 9; tenths++) {
-            int sum = tenths * firstSum + (10 - tenths) * secondSum;
-            if ((best == NONE || sum < bestSum)
-                && mixedNote(firstBody, secondBody, tenths) >= body
-                && mixedNote(firstBrisk, secondBrisk, tenths) >= brisk
-                && mixedNote(firstAroma, secondAroma, tenths) >= aroma) {
-                best = tenths;
-                bestSum = sum;
+            int itsBody = tenths * firstBody + (10 - tenths) * secondBody;
+            int itsBrisk = tenths * firstBrisk + (10 - tenths) * secondBrisk;
+            int itsAroma = tenths * firstAroma + (10 - tenths) * secondAroma;
+            if (itsBody / 10 >= body && itsBrisk / 10 >= brisk && itsAroma / 10 >= aroma) {
+                int sum = itsBody + itsBrisk + itsAroma;
+                least = Math.min(least, sum * MIX_SUM + pair + tenths);
             }
         }
-        return best;
+        return least;
     }
 
     private static final class Section {
@@ -731,6 +712,7 @@ public final class FlushGarden {
             }
         }
 
+        // Without state, grade and units: a grade gets its own, and a lot to be fired has no grade yet.
         void copyLeaf(Lot from) {
             dry = from.dry;
             fine = from.fine;
@@ -740,7 +722,6 @@ public final class FlushGarden {
             ox = from.ox;
             cased = from.cased;
             burn = from.burn;
-            grade = from.grade;
             killed = from.killed;
             tainted = from.tainted;
         }

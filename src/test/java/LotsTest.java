@@ -86,7 +86,8 @@ public final class LotsTest {
         Due.state("the first one killed", () -> g.join(1, 2));
         g.kill(2);
         Due.is("both killed", g.join(2, 1), 34 + 40);
-        Due.is("tainted, if one is", g.ofLot(2, TAINTED), 0);
+        Due.is("UNITS of both", g.ofLot(2, 14), 34 + 40);
+        Due.is("not tainted, as none is", g.ofLot(2, TAINTED), 0);
         g.wither(0, 20, 3);
         g.wither(3, 20, 3);
         g.wither(3, 2, 3);
@@ -120,6 +121,11 @@ public final class LotsTest {
         Due.is("CHEM", g.ofLot(0, CHEM), 4);
         Due.is("not below DRY", g.wither(0, 20, 3), 54);
         Due.is("CHEM goes on", g.ofLot(0, CHEM), 24);
+        FlushGarden nine = grown(9);
+        nine.pluck(0, 1, 9);
+        nine.wither(0, 1, 3);
+        Due.is("113 less 122 / 10", nine.wither(0, 1, 1), 101);
+        Due.is("101 less 110 / 10", nine.wither(0, 1, 1), 90);
         g.kill(0);
         Due.state("killed", () -> g.wither(0, 1, 1));
         g.roll(0, 1);
@@ -297,6 +303,31 @@ public final class LotsTest {
         Due.is("LOTS ever", g.many(2), 6);
     }
 
+    /** The shares of 54 units by a break. */
+    private static void shareRow(int breaks, int third, int second, int first) {
+        FlushGarden g = withered();
+        for (int i = 0; i < breaks; i++) {
+            g.roll(0, 1);
+        }
+        g.fire(0, 1, 30);
+        Due.is("sorted by the break " + breaks, g.sort(0), first > 0 ? 3 : 2);
+        Due.is("grade 0 by the break " + breaks, g.ofLot(1, DRY), third);
+        Due.is("grade 1 by the break " + breaks, g.ofLot(2, DRY), second);
+        if (first > 0) {
+            Due.is("grade 2 by the break " + breaks, g.ofLot(3, DRY), first);
+            notes("grade 2 by the break " + breaks, g, 3, breaks / 3 + 2, 5 + 4 - 3 - 12 / 4, 2 + 3 - 12 / 5);
+        }
+    }
+
+    private static void promise13Rows() {
+        shareRow(1, 51, 2, 1);
+        shareRow(2, 47, 5, 2);
+        shareRow(8, 23, 21, 10);
+        shareRow(9, 18, 24, 12);
+        shareRow(10, 14, 27, 13);
+        shareRow(11, 14, 27, 13);
+    }
+
     private static void promise13Bounds() {
         FlushGarden g = grown(9, 9);
         g.pluck(0, 1, 9);
@@ -311,6 +342,7 @@ public final class LotsTest {
         }
         Due.state("17 lots", () -> g.sort(0));
         Due.is("nothing is changed", g.ofLot(0, STATE), 2);
+        Due.is("no new ones", g.many(2), 14);
         FlushGarden full = grown(9, 9);
         full.pluck(0, 1, 9);
         full.wither(0, 9, 3);
@@ -393,6 +425,9 @@ public final class LotsTest {
         Due.is("UNITS of it", g.ofLot(5, 14), 68);
         Due.is("UNITS of it", g.ofLot(5, 15), 3);
         Due.is("DRY of all LOTS", g.many(8), 42 + 88);
+        g.mix(5, 70, 4, 54 - 1);
+        Due.is("one unit left over", g.ofLot(5, DRY), 1);
+        Due.is("MADE still", g.ofLot(5, STATE), 2);
     }
 
     private static void promise14Notes() {
@@ -469,6 +504,39 @@ public final class LotsTest {
         noteRow(4, 1, 7, 2, 15, 3, 9 - 1, 2 + 3);
         noteRow(4, 1, 7, 2, 16, 3, 9 - 1, 2 + 3 - 1);
         noteRow(4, 1, 7, 5, 30, 3, 0, 0);
+        noteRow(4, 1, 7, 5, 9, 3, 5 + 4 - 5 / 4, 2 + 3 - 5 / 5);
+        FlushGarden g = grown(9);
+        g.pluck(0, 1, 9);
+        g.pluck(0, 3, 1);
+        g.join(0, 1);
+        g.wither(0, 4, 3);
+        g.roll(0, 1);
+        g.rest(0, 11, 2);
+        g.fire(0, 1, 18);
+        lot("F is 540 / 94", g, 0, 2, 94, 54, 4, 4, 1, 22, 0, 0);
+        notes("F is 5, OX 22", g, 0, 2, 2 + 4 - 1, 2 + 1);
+    }
+
+    private static void oxRow(int ox, int far) {
+        FlushGarden g = withered();
+        g.roll(0, 1);
+        for (int i = 0; i < ox; i++) {
+            g.rest(0, 1, 1);
+        }
+        g.fire(0, 1, 18);
+        notes("OX " + ox, g, 0, ox / 8, 5 + 4 - far, 2 + 3);
+    }
+
+    private static void promise23Ox() {
+        oxRow(7, 2);
+        oxRow(14, 2);
+        oxRow(15, 1);
+        oxRow(22, 1);
+        oxRow(23, 0);
+        oxRow(37, 0);
+        oxRow(38, 1);
+        oxRow(45, 1);
+        oxRow(46, 2);
     }
 
     private static void promise30() {
@@ -542,6 +610,7 @@ public final class LotsTest {
         promise12Case();
         promise13();
         promise13Shares();
+        promise13Rows();
         promise13Bounds();
         promise14Arguments();
         promise14();
@@ -549,6 +618,7 @@ public final class LotsTest {
         promise22();
         promise23();
         promise23Rows();
+        promise23Ox();
         promise30();
         promise30Hot();
         promise30None();

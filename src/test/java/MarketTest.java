@@ -203,6 +203,20 @@ public final class MarketTest {
         g.bid(1, 0, 8);
         g.bid(0, 0, 8);
         Due.is("told anew it is behind", g.knock(0), 2);
+        FlushGarden two = made();
+        two.purse(0, 300);
+        two.purse(1, 300);
+        two.offer(0, 1);
+        two.bid(0, 0, 8);
+        two.bid(1, 0, 8);
+        Due.is("the first of two alike", two.knock(0), 0);
+        FlushGarden later = made();
+        later.purse(0, 300);
+        later.purse(1, 300);
+        later.offer(0, 1);
+        later.bid(1, 0, 7);
+        later.bid(0, 0, 8);
+        Due.is("the greater one, if later", later.knock(0), 0);
     }
 
     private static void promise24() {
@@ -306,6 +320,39 @@ public final class MarketTest {
         }
     }
 
+    private static void promise27Sold() {
+        FlushGarden g = twoMade();
+        g.purse(0, 9999);
+        for (int lot = 0; lot < 2; lot++) {
+            g.offer(lot, 1);
+            g.bid(0, lot, 1);
+            g.knock(lot);
+        }
+        Due.is("LOTS that were sold", g.many(7), 2);
+        Due.is("UNITS that were sold", g.many(10), 54 + 120);
+        Due.is("PURSE", g.many(11), 9999 - 5 - 12);
+    }
+
+    /** Grade 2 of the break 1 is one unit. */
+    private static void promise28OneUnit() {
+        FlushGarden g = new FlushGarden();
+        g.section(9, 0);
+        g.pass(5, 0, 5);
+        g.pluck(0, 1, 9);
+        g.wither(0, 4, 3);
+        g.roll(0, 1);
+        g.fire(0, 1, 18);
+        g.sort(0);
+        g.purse(0, 9999);
+        for (int lot = 1; lot < 3; lot++) {
+            g.offer(lot, 1);
+            g.bid(0, lot, 1);
+            g.knock(lot);
+        }
+        Due.is("DRY of all LOTS", g.many(8), 1);
+        Due.isDouble("2, 6 and 5", g.meanNotes(), 13.0);
+    }
+
     private static void promise28() {
         FlushGarden g = twoMade();
         Due.isDouble("two made ones", g.meanNotes(), (54 * 18 + 120 * 10) / 174.0);
@@ -349,6 +396,30 @@ public final class MarketTest {
         Due.is("one alone", made().bestMix(0, 0, 0), -1);
     }
 
+    private static void promise31Later() {
+        FlushGarden g = made();
+        g.sort(0);
+        g.pluck(1, 3, 9);
+        g.wither(4, 20, 3);
+        g.kill(4);
+        g.roll(4, 2);
+        g.fire(4, 3, 10);
+        notes("the last one", g, 4, 0, 4, 6);
+        Due.is("a later pair has a smaller sum", g.bestMix(0, 0, 0), 1041);
+        Due.is("7 tenths of (5 8 5)", g.bestMix(3, 0, 0), 1046);
+        Due.is("3 tenths of grade 2 are less than 4 of the others", g.bestMix(2, 0, 0), 3043);
+        g.mix(1, 1, 2, 1);
+        for (int lot = 6; lot < 16; lot++) {
+            g.mix(2, 1, 4, 1);
+        }
+        Due.is("16 lots", g.many(2), 16);
+        Due.is("9 tenths of lot 4, which is the first one now", g.bestMix(0, 0, 0), 4069);
+        Due.is("the two that are best", g.bestMix(0, 0, 6), -1);
+        Due.isDouble("of 16, each by its DRY", g.meanNotes(), (18 * 13 + 18 * 16 + 20 * 13 + 10 * 110 + 18 * 2 + 10 * 2 * 13) / 174.0);
+        Due.is("MADE ones", g.many(5), 15);
+        Due.is("digest", g.digest(), g.digest());
+    }
+
     private static void promise32() {
         FlushGarden g = made();
         Due.index("wouldPay(1)", () -> g.wouldPay(1));
@@ -380,8 +451,11 @@ public final class MarketTest {
         promise25();
         promise26();
         promise27();
+        promise27Sold();
         promise28();
+        promise28OneUnit();
         promise31();
+        promise31Later();
         promise32();
         Due.end();
     }

@@ -193,6 +193,14 @@ public final class SectionsTest {
         g.pass(5, 0, 3);
         g.pluck(1, 1, 1);
         Due.is("POISON is gone", g.ofLot(1, 11), 0);
+        FlushGarden last = garden(1, 0);
+        last.pass(2, 6, 5);
+        section("one of each", last, 0, 1, 0, 0, 0, 5, 0, 1, 1, 1, 2, 2);
+        last.spray(0);
+        last.pass(0, 0, 2);
+        Due.is("one alone", last.pluck(0, 1, 1), 0);
+        Due.is("DRY of one", last.ofLot(0, 1), 3);
+        Due.is("POISON is 1 still", last.ofLot(0, 11), 1);
         FlushGarden all = garden(9, 0);
         all.pass(5, 0, 30);
         for (int lot = 0; lot < 16; lot++) {
