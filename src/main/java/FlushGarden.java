@@ -25,7 +25,7 @@ public final class FlushGarden {
     private static final int MOST_WEATHER = 6;
     private static final int SAP_OF_A_FLUSH = 5;
     private static final int MIX_SUM = 100000;
-    private static final int NO_MIX = Integer.MAX_VALUE;
+    private static final int NO_MIX = 1000 * MIX_SUM;
 
     private final Section[] sections = new Section[MOST_SECTIONS];
     private int sectionCount = 0;
@@ -55,7 +55,7 @@ public final class FlushGarden {
 
     // ---- sections
 
-    public int section(int area, int shade) {
+    public int section(int area, int shade) throws IllegalArgumentException, IllegalStateException {
         requireArgument(area, 1, 9);
         requireArgument(shade, 0, 2);
         requireState(sectionCount < MOST_SECTIONS);
@@ -66,7 +66,7 @@ public final class FlushGarden {
         return sectionCount - 1;
     }
 
-    public int pass(int warmth, int wet, int days) {
+    public int pass(int warmth, int wet, int days) throws IllegalArgumentException {
         requireArgument(warmth, 0, MOST_WEATHER);
         requireArgument(wet, 0, MOST_WEATHER);
         requireArgument(days, 1, MOST_DAYS);
@@ -80,11 +80,11 @@ public final class FlushGarden {
         return flushes;
     }
 
-    public int prune(int section) {
+    public int prune(int section) throws IndexOutOfBoundsException {
         return sectionAt(section).cutBack();
     }
 
-    public int spray(int section) {
+    public int spray(int section) throws IndexOutOfBoundsException {
         Section it = sectionAt(section);
         int before = it.blight;
         it.blight = 0;
@@ -92,7 +92,7 @@ public final class FlushGarden {
         return before;
     }
 
-    public int pluck(int section, int standard, int hands) {
+    public int pluck(int section, int standard, int hands) throws IndexOutOfBoundsException, IllegalArgumentException, IllegalStateException {
         Section from = sectionAt(section);
         requireArgument(standard, 1, 3);
         requireArgument(hands, 1, 9);
@@ -118,7 +118,7 @@ public final class FlushGarden {
 
     // ---- lots
 
-    public int join(int lot, int other) {
+    public int join(int lot, int other) throws IndexOutOfBoundsException, IllegalArgumentException, IllegalStateException {
         Lot first = lotAt(lot);
         Lot second = lotAt(other);
         requireDifferent(lot, other);
@@ -135,7 +135,7 @@ public final class FlushGarden {
         return first.dry;
     }
 
-    public int wither(int lot, int hours, int air) {
+    public int wither(int lot, int hours, int air) throws IndexOutOfBoundsException, IllegalArgumentException, IllegalStateException {
         Lot it = lotAt(lot);
         requireArgument(hours, 1, 20);
         requireArgument(air, 1, 3);
@@ -147,7 +147,7 @@ public final class FlushGarden {
         return it.water;
     }
 
-    public int kill(int lot) {
+    public int kill(int lot) throws IndexOutOfBoundsException, IllegalStateException {
         Lot it = lotAt(lot);
         requireState(it.state == GREEN && !it.killed);
         it.water -= it.water / 5;
@@ -155,7 +155,7 @@ public final class FlushGarden {
         return it.water;
     }
 
-    public int roll(int lot, int force) {
+    public int roll(int lot, int force) throws IndexOutOfBoundsException, IllegalArgumentException, IllegalStateException {
         Lot it = lotAt(lot);
         requireArgument(force, 1, 5);
         requireState(it.state == GREEN || it.state == ROLLED);
@@ -165,7 +165,7 @@ public final class FlushGarden {
         return it.broken;
     }
 
-    public int rest(int lot, int quarters, int warmth) {
+    public int rest(int lot, int quarters, int warmth) throws IndexOutOfBoundsException, IllegalArgumentException, IllegalStateException {
         Lot it = lotAt(lot);
         requireArgument(quarters, 1, 20);
         requireArgument(warmth, 1, 4);
@@ -174,7 +174,7 @@ public final class FlushGarden {
         return it.ox;
     }
 
-    public int fire(int lot, int heat, int minutes) {
+    public int fire(int lot, int heat, int minutes) throws IndexOutOfBoundsException, IllegalArgumentException, IllegalStateException {
         Lot it = lotAt(lot);
         requireArgument(heat, 1, MOST_HEAT);
         requireArgument(minutes, 1, MOST_MINUTES);
@@ -188,7 +188,7 @@ public final class FlushGarden {
         return it.water;
     }
 
-    public int sort(int lot) {
+    public int sort(int lot) throws IndexOutOfBoundsException, IllegalStateException {
         Lot it = lotAt(lot);
         requireState(it.isFreeMade() && it.grade == NONE && !it.mixed);
         int made = 0;
@@ -207,7 +207,7 @@ public final class FlushGarden {
         return made;
     }
 
-    public int mix(int lot, int units, int other, int otherUnits) {
+    public int mix(int lot, int units, int other, int otherUnits) throws IndexOutOfBoundsException, IllegalArgumentException, IllegalStateException {
         Lot first = lotAt(lot);
         Lot second = lotAt(other);
         requireDifferent(lot, other);
@@ -228,7 +228,7 @@ public final class FlushGarden {
 
     // ---- tasters and market
 
-    public int lean(int taster, int by) {
+    public int lean(int taster, int by) throws IndexOutOfBoundsException, IllegalArgumentException {
         Taster it = tasterAt(taster);
         requireArgument(by, -2, 2);
         int before = it.leans;
@@ -236,7 +236,7 @@ public final class FlushGarden {
         return before;
     }
 
-    public int repeat(int taster, int lot) {
+    public int repeat(int taster, int lot) throws IndexOutOfBoundsException, IllegalStateException {
         Taster it = tasterAt(taster);
         Lot tasted = madeLotAt(lot);
         for (int i = 0; i < NOTES; i++) {
@@ -247,14 +247,14 @@ public final class FlushGarden {
         return it.guess();
     }
 
-    public int purse(int buyer, int more) {
+    public int purse(int buyer, int more) throws IndexOutOfBoundsException, IllegalArgumentException {
         requireIndex(buyer, BUYERS);
         requireArgument(more, 1, 9999);
         purses[buyer] += more;
         return purses[buyer];
     }
 
-    public int offer(int lot, int reserve) {
+    public int offer(int lot, int reserve) throws IndexOutOfBoundsException, IllegalArgumentException, IllegalStateException {
         Lot it = lotAt(lot);
         requireArgument(reserve, 1, 99);
         requireState(it.state == MADE);
@@ -268,7 +268,7 @@ public final class FlushGarden {
         return offered;
     }
 
-    public int bid(int buyer, int lot, int price) {
+    public int bid(int buyer, int lot, int price) throws IndexOutOfBoundsException, IllegalArgumentException, IllegalStateException {
         requireIndex(buyer, BUYERS);
         Lot it = lotAt(lot);
         requireArgument(price, 1, 99);
@@ -277,7 +277,7 @@ public final class FlushGarden {
         return it.auction.countBids();
     }
 
-    public int knock(int lot) {
+    public int knock(int lot) throws IndexOutOfBoundsException, IllegalStateException {
         Lot it = lotAt(lot);
         requireState(it.auction.isOpen());
         int buyer = winnerOf(it);
@@ -295,7 +295,7 @@ public final class FlushGarden {
 
     // ---- what one asks
 
-    public int ofSection(int section, int what) {
+    public int ofSection(int section, int what) throws IndexOutOfBoundsException, IllegalArgumentException {
         Section it = sectionAt(section);
         requireArgument(what, 0, 10);
         switch (what) {
@@ -310,7 +310,7 @@ public final class FlushGarden {
         }
     }
 
-    public int ofLot(int lot, int what) {
+    public int ofLot(int lot, int what) throws IndexOutOfBoundsException, IllegalArgumentException {
         Lot it = lotAt(lot);
         requireArgument(what, 0, 17);
         switch (what) {
@@ -332,14 +332,14 @@ public final class FlushGarden {
         }
     }
 
-    public int note(int lot, int note) {
+    public int note(int lot, int note) throws IndexOutOfBoundsException, IllegalArgumentException, IllegalStateException {
         Lot it = lotAt(lot);
         requireArgument(note, 0, NOTES - 1);
         requireState(it.state == MADE);
         return it.noteOf(note);
     }
 
-    public int taste(int lot, int note) {
+    public int taste(int lot, int note) throws IndexOutOfBoundsException, IllegalArgumentException, IllegalStateException {
         int known = note(lot, note);
         int sum = 0;
         for (int i = 0; i < tasters.length; i++) {
@@ -348,19 +348,19 @@ public final class FlushGarden {
         return heldNote(sum / TASTERS);
     }
 
-    public int ofTaster(int taster, int what) {
+    public int ofTaster(int taster, int what) throws IndexOutOfBoundsException, IllegalArgumentException {
         Taster it = tasterAt(taster);
         requireArgument(what, 0, 1);
         return what == 0 ? it.guess() : it.repeats;
     }
 
-    public int bidOf(int buyer, int lot) {
+    public int bidOf(int buyer, int lot) throws IndexOutOfBoundsException {
         requireIndex(buyer, BUYERS);
         Lot it = lotAt(lot);
         return it.auction.hasBid(buyer) ? it.auction.prices[buyer] : NONE;
     }
 
-    public int many(int what) {
+    public int many(int what) throws IllegalArgumentException {
         requireArgument(what, 0, 14);
         switch (what) {
             case 0: return sectionCount;
@@ -392,7 +392,7 @@ public final class FlushGarden {
 
     // ---- what would be (nothing is changed)
 
-    public int flushIn(int section, int warmth, int wet) {
+    public int flushIn(int section, int warmth, int wet) throws IndexOutOfBoundsException, IllegalArgumentException {
         Section it = sectionAt(section);
         requireArgument(warmth, 0, MOST_WEATHER);
         requireArgument(wet, 0, MOST_WEATHER);
@@ -408,7 +408,7 @@ public final class FlushGarden {
         return NONE;
     }
 
-    public int bestFire(int lot) {
+    public int bestFire(int lot) throws IndexOutOfBoundsException, IllegalStateException {
         Lot it = lotAt(lot);
         requireState(it.state == ROLLED);
         int best = NONE;
@@ -427,7 +427,7 @@ public final class FlushGarden {
         return best;
     }
 
-    public int bestMix(int body, int brisk, int aroma) {
+    public int bestMix(int body, int brisk, int aroma) throws IllegalArgumentException {
         requireArgument(body, 0, GREATEST_NOTE);
         requireArgument(brisk, 0, GREATEST_NOTE);
         requireArgument(aroma, 0, GREATEST_NOTE);
@@ -443,7 +443,7 @@ public final class FlushGarden {
         return least == NO_MIX ? NONE : least % MIX_SUM;
     }
 
-    public int wouldPay(int lot) {
+    public int wouldPay(int lot) throws IndexOutOfBoundsException, IllegalStateException {
         Lot it = lotAt(lot);
         requireState(it.auction.isOpen());
         int buyer = winnerOf(it);

@@ -5,41 +5,121 @@ import java.lang.reflect.Method;
 import java.lang.reflect.Modifier;
 import java.nio.file.Files;
 import java.nio.file.Path;
+import java.util.ArrayList;
+import java.util.List;
+import java.util.TreeMap;
 import java.util.TreeSet;
 
 /** The public face of the document, and the rules of LANGUAGE.md that a program can look at. */
 public final class FaceTest {
-    private static final String FACE = "bestFire(int)int bestMix(int,int,int)int bid(int,int,int)int bidOf(int,int)int"
-        + " digest()long fire(int,int,int)int flushIn(int,int,int)int join(int,int)int kill(int)int knock(int)int"
-        + " lean(int,int)int many(int)int meanNotes()double mix(int,int,int,int)int note(int,int)int ofLot(int,int)int"
-        + " ofSection(int,int)int ofTaster(int,int)int offer(int,int)int pass(int,int,int)int pluck(int,int,int)int"
-        + " prune(int)int purse(int,int)int repeat(int,int)int rest(int,int,int)int roll(int,int)int section(int,int)int"
-        + " sort(int)int spray(int)int taste(int,int)int wither(int,int,int)int wouldPay(int)int";
+    /** The heads of the methods, as the section "The public face" of the document has them. */
+    private static final String[] FACE = {
+        "public int section(int area, int shade)"
+            + " throws IllegalArgumentException, IllegalStateException",
+        "public int pass(int warmth, int wet, int days)"
+            + " throws IllegalArgumentException",
+        "public int prune(int section)"
+            + " throws IndexOutOfBoundsException",
+        "public int spray(int section)"
+            + " throws IndexOutOfBoundsException",
+        "public int pluck(int section, int standard, int hands)"
+            + " throws IndexOutOfBoundsException, IllegalArgumentException, IllegalStateException",
+        "public int join(int lot, int other)"
+            + " throws IndexOutOfBoundsException, IllegalArgumentException, IllegalStateException",
+        "public int wither(int lot, int hours, int air)"
+            + " throws IndexOutOfBoundsException, IllegalArgumentException, IllegalStateException",
+        "public int kill(int lot)"
+            + " throws IndexOutOfBoundsException, IllegalStateException",
+        "public int roll(int lot, int force)"
+            + " throws IndexOutOfBoundsException, IllegalArgumentException, IllegalStateException",
+        "public int rest(int lot, int quarters, int warmth)"
+            + " throws IndexOutOfBoundsException, IllegalArgumentException, IllegalStateException",
+        "public int fire(int lot, int heat, int minutes)"
+            + " throws IndexOutOfBoundsException, IllegalArgumentException, IllegalStateException",
+        "public int sort(int lot)"
+            + " throws IndexOutOfBoundsException, IllegalStateException",
+        "public int mix(int lot, int units, int other, int otherUnits)"
+            + " throws IndexOutOfBoundsException, IllegalArgumentException, IllegalStateException",
+        "public int lean(int taster, int by)"
+            + " throws IndexOutOfBoundsException, IllegalArgumentException",
+        "public int repeat(int taster, int lot)"
+            + " throws IndexOutOfBoundsException, IllegalStateException",
+        "public int purse(int buyer, int more)"
+            + " throws IndexOutOfBoundsException, IllegalArgumentException",
+        "public int offer(int lot, int reserve)"
+            + " throws IndexOutOfBoundsException, IllegalArgumentException, IllegalStateException",
+        "public int bid(int buyer, int lot, int price)"
+            + " throws IndexOutOfBoundsException, IllegalArgumentException, IllegalStateException",
+        "public int knock(int lot)"
+            + " throws IndexOutOfBoundsException, IllegalStateException",
+        "public int ofSection(int section, int what)"
+            + " throws IndexOutOfBoundsException, IllegalArgumentException",
+        "public int ofLot(int lot, int what)"
+            + " throws IndexOutOfBoundsException, IllegalArgumentException",
+        "public int note(int lot, int note)"
+            + " throws IndexOutOfBoundsException, IllegalArgumentException, IllegalStateException",
+        "public int taste(int lot, int note)"
+            + " throws IndexOutOfBoundsException, IllegalArgumentException, IllegalStateException",
+        "public int ofTaster(int taster, int what)"
+            + " throws IndexOutOfBoundsException, IllegalArgumentException",
+        "public int bidOf(int buyer, int lot)"
+            + " throws IndexOutOfBoundsException",
+        "public int many(int what)"
+            + " throws IllegalArgumentException",
+        "public double meanNotes()",
+        "public int flushIn(int section, int warmth, int wet)"
+            + " throws IndexOutOfBoundsException, IllegalArgumentException",
+        "public int bestFire(int lot)"
+            + " throws IndexOutOfBoundsException, IllegalStateException",
+        "public int bestMix(int body, int brisk, int aroma)"
+            + " throws IllegalArgumentException",
+        "public int wouldPay(int lot)"
+            + " throws IndexOutOfBoundsException, IllegalStateException",
+        "public long digest()"};
 
     private static final String[] RULED_OUT = {"import ", "catch", "finally", "Exact(", "->", "::", "synchronized",
-        "assert ", "System.", "protected ", "native ", "java.util", "Object"};
+        "assert ", "System.", "protected ", "native ", "java.util", "Object", "_VALUE"};
 
-    private static String told(Method m) {
-        StringBuilder text = new StringBuilder(m.getName()).append('(');
-        for (Class<?> type : m.getParameterTypes()) {
-            text.append(text.charAt(text.length() - 1) == '(' ? "" : ",").append(type.getName());
+    private static String names(Class<?>[] types) {
+        List<String> names = new ArrayList<>();
+        for (Class<?> type : types) {
+            names.add(type.getSimpleName());
         }
-        return text.append(')').append(m.getReturnType().getName()).toString();
+        return String.join(", ", names);
     }
 
+    private static String told(Method m) {
+        String head = "public " + m.getReturnType().getSimpleName() + " " + m.getName()
+            + "(" + names(m.getParameterTypes()) + ")";
+        return m.getExceptionTypes().length == 0 ? head : head + " throws " + names(m.getExceptionTypes());
+    }
+
+    /** What a class file keeps of a head: all but the names of the parameters. */
+    private static String withoutNames(String head) {
+        return head.replaceAll("int \\w+([,)])", "int$1");
+    }
+
+    /** Each head with what it throws, in that order, as the compiled class tells it; and no other method. */
     private static void face() {
-        TreeSet<String> shown = new TreeSet<>();
-        TreeSet<String> shownNames = new TreeSet<>();
+        TreeMap<String, String> shown = new TreeMap<>();
         for (Method m : FlushGarden.class.getDeclaredMethods()) {
             if (!Modifier.isPrivate(m.getModifiers())) {
                 Due.is(m + " is public and not static", m.getModifiers(), Modifier.PUBLIC);
-                shown.add(told(m));
-                shownNames.add(m.getName());
+                shown.put(told(m), m.getName());
             }
         }
-        Due.isText("the face", String.join(" ", shown), FACE);
+        TreeSet<String> wanted = new TreeSet<>();
+        for (String head : FACE) {
+            wanted.add(withoutNames(head));
+        }
+        for (String head : wanted) {
+            Due.is("in the class: " + head, shown.containsKey(head) ? 1 : 0, 1);
+        }
+        for (String head : shown.keySet()) {
+            Due.is("in the document: " + head, wanted.contains(head) ? 1 : 0, 1);
+        }
         for (Method m : FlushGarden.class.getDeclaredMethods()) {
-            boolean bears = Modifier.isPrivate(m.getModifiers()) && shownNames.contains(m.getName());
+            boolean bears = Modifier.isPrivate(m.getModifiers()) && shown.containsValue(m.getName());
             Due.is(m + " bears a public one's name", bears ? 1 : 0, 0);
         }
         Constructor<?>[] made = FlushGarden.class.getDeclaredConstructors();
@@ -68,6 +148,9 @@ public final class FaceTest {
 
     private static void text() throws IOException {
         String program = Files.readString(Path.of("src/main/java/FlushGarden.java"));
+        for (String head : FACE) {
+            Due.is("written so in the program: " + head, program.contains("\n    " + head + " {\n") ? 1 : 0, 1);
+        }
         for (String ruledOut : RULED_OUT) {
             Due.is("places of '" + ruledOut + "' in the program", program.indexOf(ruledOut), -1);
         }
