@@ -2,31 +2,39 @@
 final class Due {
     private static int asked = 0;
     private static int wrong = 0;
+    private static String test = "";
 
     private Due() {
+    }
+
+    /** What is wrong from here on is told by the name of this test. */
+    static void begin(String name) {
+        test = name + ": ";
+    }
+
+    private static void tell(String what) {
+        wrong++;
+        System.out.println(test + what);
     }
 
     static void is(String call, long got, long want) {
         asked++;
         if (got != want) {
-            wrong++;
-            System.out.println(call + " answered " + got + ", due is " + want);
+            tell(call + " answered " + got + ", due is " + want);
         }
     }
 
     static void isDouble(String call, double got, double want) {
         asked++;
         if (got != want) {
-            wrong++;
-            System.out.println(call + " answered " + got + ", due is " + want);
+            tell(call + " answered " + got + ", due is " + want);
         }
     }
 
     static void isText(String what, String got, String want) {
         asked++;
         if (!got.equals(want)) {
-            wrong++;
-            System.out.println(what + " is " + got + ", due is " + want);
+            tell(what + " is " + got + ", due is " + want);
         }
     }
 
@@ -42,7 +50,8 @@ final class Due {
         throwsIt(call, it, IllegalStateException.class);
     }
 
-    private static void throwsIt(String call, Runnable it, Class<?> want) {
+    /** The very class that is due, or null, if nothing is to be thrown. */
+    static void throwsIt(String call, Runnable it, Class<?> want) {
         asked++;
         Class<?> got = null;
         try {
@@ -51,8 +60,7 @@ final class Due {
             got = e.getClass();
         }
         if (got != want) {
-            wrong++;
-            System.out.println(call + " threw " + got + ", due is " + want);
+            tell(call + " threw " + got + ", due is " + want);
         }
     }
 
