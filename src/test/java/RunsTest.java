@@ -1,19 +1,23 @@
+import java.util.ArrayList;
 import java.util.Arrays;
 import java.util.HashMap;
 import java.util.List;
 import java.util.Map;
 import java.util.Random;
+import java.util.function.Supplier;
 
 /**
- * Promise 33, and what all promises share: long runs in which each call throws only what its
- * promise names, changes nothing if it throws or only asks, and the digest is that of the answers.
- * With what is asked around each call that is more than the 512 calls of which the document tells;
- * the program has no such end.
+ * Promise 33, and what all promises share: runs in which each call throws only what its promise
+ * names, changes nothing if it throws or only asks, and the digest is that of the answers. What
+ * would go beyond the 512 calls of an object is asked of another one, for which the run is called anew.
  */
 public final class RunsTest {
     private static final int ARGUMENT = 1;
     private static final int INDEX = 2;
     private static final int STATE = 4;
+
+    // Each call of a run costs four: two to draw it, itself, and the digest.
+    private static final int MOST_CALLS = 115;
 
     private static final String[] CHANGES = {"section", "pass", "prune", "spray", "pluck", "join", "wither", "kill",
         "roll", "rest", "fire", "sort", "mix", "lean", "repeat", "purse", "offer", "bid", "knock"};
@@ -21,6 +25,9 @@ public final class RunsTest {
         "many", "flushIn", "bestFire", "bestMix", "wouldPay");
 
     private static final Map<String, Integer> THROWN = new HashMap<>();
+
+    private record Call(String name, int[] with) {
+    }
 
     private static void mayThrow(int which, String... names) {
         for (String name : names) {
@@ -73,8 +80,43 @@ public final class RunsTest {
         return e.getClass() == IllegalStateException.class ? STATE : 8;
     }
 
-    /** The digest as promise 33 tells it, by the answers of the other calls. */
-    static long digestOf(FlushGarden g) {
+    /** A garden on which these calls were done, whatever they throw. */
+    private static FlushGarden garden(int seed, List<Call> calls) {
+        FlushGarden g = seed % 2 == 0 ? new FlushGarden() : Gardens.fired(4);
+        g.section(1 + seed % 9, seed % 3);
+        g.section(9, 0);
+        for (Call it : calls) {
+            try {
+                call(g, it.name, it.with);
+            } catch (RuntimeException e) {
+                // The run itself has looked at what is thrown.
+            }
+        }
+        return g;
+    }
+
+    private static long digestOfLot(long digestBefore, FlushGarden g, int lot) {
+        long d = digestBefore;
+        for (int what = 0; what <= 17; what++) {
+            d = d * 31 + g.ofLot(lot, what);
+        }
+        int state = g.ofLot(lot, 0);
+        for (int note = 0; note < 6 && state == 2; note++) {
+            d = d * 31 + (note < 3 ? g.note(lot, note) : g.taste(lot, note - 3));
+        }
+        d = state == 1 ? d * 31 + g.bestFire(lot) : d;
+        if (g.ofLot(lot, 13) > 0) {
+            d = d * 31 + g.wouldPay(lot);
+            for (int buyer = 0; buyer < 4; buyer++) {
+                d = d * 31 + g.bidOf(buyer, lot);
+            }
+        }
+        return d;
+    }
+
+    /** The digest as promise 33 tells it, by the answers of the other calls; each lot is asked of a garden of its own. */
+    private static long digestOf(Supplier<FlushGarden> made) {
+        FlushGarden g = made.get();
         long d = 5402;
         for (int what = 0; what <= 14; what++) {
             d = d * 31 + g.many(what);
@@ -86,20 +128,7 @@ public final class RunsTest {
             d = d * 31 + g.flushIn(section, 3, 2);
         }
         for (int lot = 0; lot < g.many(2); lot++) {
-            for (int what = 0; what <= 17; what++) {
-                d = d * 31 + g.ofLot(lot, what);
-            }
-            int state = g.ofLot(lot, 0);
-            for (int note = 0; note < 6 && state == 2; note++) {
-                d = d * 31 + (note < 3 ? g.note(lot, note) : g.taste(lot, note - 3));
-            }
-            d = state == 1 ? d * 31 + g.bestFire(lot) : d;
-            if (g.ofLot(lot, 13) > 0) {
-                d = d * 31 + g.wouldPay(lot);
-                for (int buyer = 0; buyer < 4; buyer++) {
-                    d = d * 31 + g.bidOf(buyer, lot);
-                }
-            }
+            d = digestOfLot(d, made.get(), lot);
         }
         for (int taster = 0; taster < 3; taster++) {
             d = (d * 31 + g.ofTaster(taster, 0)) * 31 + g.ofTaster(taster, 1);
@@ -117,8 +146,10 @@ public final class RunsTest {
     }
 
     private static int[] arguments(Random random, FlushGarden g, String name) {
-        int lot = any(random, 0, g.many(2) - 1);
-        int other = any(random, 0, g.many(2) - 1);
+        // Mostly the first lots, so that one lot is called often enough to be sold.
+        int last = Math.min(g.many(2) - 1, random.nextInt(16));
+        int lot = any(random, 0, last);
+        int other = any(random, 0, last);
         int section = any(random, 0, g.many(0) - 1);
         int buyer = any(random, 0, 3);
         int taster = any(random, 0, 2);
@@ -149,40 +180,49 @@ public final class RunsTest {
         }
     }
 
-    private static String draw(Random random) {
-        String[] often = {"pass", "pluck", "wither", "wither", "roll", "rest", "fire", "fire", "offer", "purse", "bid",
-            "bid", "repeat"};
-        switch (random.nextInt(4)) {
-            case 0: return ASKED.get(random.nextInt(ASKED.size()));
-            case 1: return CHANGES[random.nextInt(CHANGES.length)];
-            default: return often[random.nextInt(often.length)];
+    private static Call draw(Random random, FlushGarden g) {
+        String[] often = {"pass", "pluck", "wither", "wither", "roll", "rest", "fire", "fire", "offer", "offer", "purse",
+            "purse", "bid", "bid", "knock", "repeat", "mix"};
+        String name = often[random.nextInt(often.length)];
+        int kind = random.nextInt(4);
+        if (kind == 0) {
+            name = ASKED.get(random.nextInt(ASKED.size()));
+        } else if (kind == 1) {
+            name = CHANGES[random.nextInt(CHANGES.length)];
         }
+        return new Call(name, arguments(random, g, name));
     }
 
     private static void run(int seed, int[] answered) {
         Random random = new Random(seed);
-        FlushGarden g = new FlushGarden();
-        g.section(1 + seed % 9, seed % 3);
-        g.section(9, 0);
-        for (int i = 0; i < 300; i++) {
-            String name = draw(random);
-            int[] a = arguments(random, g, name);
-            String told = "run " + seed + ", call " + i + ": " + name + Arrays.toString(a);
-            long before = g.digest();
-            boolean changes = !ASKED.contains(name);
+        FlushGarden g = garden(seed, List.of());
+        List<Call> done = new ArrayList<>();
+        List<Call> changing = new ArrayList<>();
+        long digest = g.digest();
+        for (int i = seed % (MOST_CALLS / 2); i < MOST_CALLS; i++) {
+            Call it = draw(random, g);
+            String told = "run " + seed + ", call " + done.size() + ": " + it.name + Arrays.toString(it.with);
+            boolean changes = !ASKED.contains(it.name);
             try {
-                call(g, name, a);
+                call(g, it.name, it.with);
                 answered[0]++;
             } catch (RuntimeException e) {
                 changes = false;
                 int kind = kind(e);
-                Due.is(told + " threw " + e + ", is it promised", THROWN.get(name) & kind, kind);
+                Due.is(told + " threw " + e + ", is it promised", THROWN.get(it.name) & kind, kind);
             }
-            if (!changes) {
-                Due.is(told + ": digest", g.digest(), before);
+            long behind = g.digest();
+            if (changes) {
+                changing.add(it);
+            } else {
+                Due.is(told + ": digest", behind, digest);
             }
-            Due.is(told + ": digest as told", g.digest(), digestOf(g));
+            done.add(it);
+            digest = behind;
         }
+        String told = "run " + seed + ": digest ";
+        Due.is(told + "without what throws or only asks", garden(seed, changing).digest(), digest);
+        Due.is(told + "as told", digest, digestOf(() -> garden(seed, done)));
         answered[1] += g.many(5);
         answered[2] += g.many(7);
     }
@@ -197,7 +237,7 @@ public final class RunsTest {
             "note", "taste");
         Due.is("digest of a new one", new FlushGarden().digest(), 444618139517052313L);
         int[] answered = new int[3];
-        for (int seed = 0; seed < 150; seed++) {
+        for (int seed = 0; seed < 500; seed++) {
             run(seed, answered);
         }
         System.out.println("answered " + answered[0] + ", made " + answered[1] + ", sold " + answered[2]);

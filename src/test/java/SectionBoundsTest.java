@@ -36,13 +36,13 @@ public final class SectionBoundsTest {
     static void promise01_512Calls() {
         FlushGarden g = one(9, 0);
         long flushes = 0;
-        for (int call = 0; call < 500; call++) {
+        for (int call = 0; call < 490; call++) {
             flushes += g.pass(6, 3, 30);
         }
-        Due.is("5 sap of 9 a day, 15000 days", flushes, 27000);
-        Due.is("NOW", g.many(1), 15000);
-        Gardens.section("500 months", g, 0, 9, 0, 0, 0, 0, 0, 18, 18, 18, 18, 18 * 26996);
-        Due.is("PRUNED", g.prune(0), 18 * 27000);
+        Due.is("9 sap a day, 14700 days", flushes, 26460);
+        Due.is("NOW", g.many(1), 14700);
+        Gardens.section("490 months", g, 0, 9, 0, 0, 0, 0, 0, 18, 18, 18, 18, 18 * 26456);
+        Due.is("PRUNED", g.prune(0), 18 * 26460);
         FlushGarden rich = new FlushGarden();
         for (int call = 1; call < 512; call++) {
             rich.purse(3, 9999);
